@@ -333,7 +333,7 @@ public final class TerminalStack {
         int rowEnd = rowStart + COLUMNS;
         int at = rowStart + cursorColumn;
         switch (last) {
-            // m, h and l go past the end of this method, since they leave WAITS as it is.
+            // m, h and l return at once, since they leave WAITS as it is.
             case 'm': changePen(); return;
             case 'h': switchInsert(true); return;
             case 'l': switchInsert(false); return;

@@ -22,8 +22,8 @@ public final class ModesTest {
         Check.due("cursor in OTHER", probe.cursor(), "0,0");
         Check.due("region in OTHER", probe.ask().region(), 50);
         Check.due("the pen stays", probe.ask().pen(), 1);
-        probe.type("x").csi("3;6r").csi("5;5H").csi("?49h");
-        Check.due("switched on while on, cursor", probe.cursor(), "4,4");
+        probe.type("x").csi("3;6r").csi("5;8H").csi("?49h");
+        Check.due("switched on while on, cursor", probe.cursor(), "4,7");
         Check.due("switched on while on, region", probe.ask().region(), 52);
         Check.due("switched on while on, cells", probe.firstSigns(), "x.....");
         probe.csi("4m").csi("4h").csi("?7l").csi("?49l");
@@ -85,12 +85,20 @@ public final class ModesTest {
         Check.due("rows are kept anew", probe.firstKept(), "q");
     }
 
+    private static void regionAsAtFirst() {
+        Probe probe = new Probe();
+        probe.csi("2;4r").csi("3;3H").esc("c");
+        Check.due("27 c, region of the screen", probe.ask().region(), 50);
+        Check.due("27 c, cursor of the screen", probe.cursor(), "0,0");
+    }
+
     public static void main(String[] args) {
         switches();
         otherScreen();
         otherKeepsNoRows();
         keptCursorAndOther();
         allAsAtFirst();
+        regionAsAtFirst();
         Check.end();
     }
 }

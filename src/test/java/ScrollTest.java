@@ -60,6 +60,7 @@ public final class ScrollTest {
         rows(at, "M", "abd.ef", "", "2,0");
         rows(at, "9M", "ab..ef", "", "2,0");
         rows("2;4r\u001b[2;4H", "M", "acd.ef", "", "1,0");
+        rows("2;4r\u001b[2;4H", "L", "a.bcef", "", "1,0");
         rows("2;4r\u001b[4;4H", "L", "abc.ef", "", "3,0");
         rows("2;4r\u001b[4;4H", "M", "abc.ef", "", "3,0");
         for (String sequence : new String[] {"L", "M", "9L", "9M"}) {
@@ -104,6 +105,27 @@ public final class ScrollTest {
         Check.due("the signs alone are kept", kept, "abcdefghijkl");
     }
 
+    /** Four full rows and a region of the rows 1 .. 2: the cells at its edges must not be touched. */
+    private static void edgesOfTheRegion() {
+        String a = "abcdefghijkl";
+        String b = "ABCDEFGHIJKL";
+        String c = "012345678901";
+        String d = "mnopqrstuvwx";
+        String none = "............";
+        Object[][] runs = {
+            {"S", new String[] {a, c, none, d}}, {"T", new String[] {a, none, b, d}},
+            {"L", new String[] {a, none, b, d}}, {"M", new String[] {a, c, none, d}},
+        };
+        for (Object[] run : runs) {
+            Probe probe = new Probe();
+            probe.type(a + b + c + d).csi("2;3r").csi("2;5H").csi((String) run[0]);
+            String[] due = (String[]) run[1];
+            for (int row = 0; row < due.length; row++) {
+                Check.due("full rows, " + run[0] + ", row " + row, probe.line(row), due[row]);
+            }
+        }
+    }
+
     private static void lastEight() {
         Probe probe = new Probe();
         for (char c = 'a'; c <= 'o'; c++) {
@@ -135,6 +157,7 @@ public final class ScrollTest {
         highRegion();
         lineFeeds();
         wholeRowsMove();
+        edgesOfTheRegion();
         lastEight();
         Check.end();
     }
