@@ -1,102 +1,127 @@
-/** Promises 4 and 5: the sequences that empty, take out and put in cells of a row or of the screen. */
+/** Promises 4 and 5: J, K, X, P and @, in every column, with the last number inside the row and the first beyond it. */
 public final class EraseTest {
-    /** Every cell of row 0 gets a letter and style 1, those of row 1 a capital and style 2, 3 digits in row 2. */
-    private static Probe filled() {
-        return new Probe().csi("1m").type("abcdefghijkl").csi("0;4m").type("ABCDEFGHIJKL").csi("7m").type("012");
+    private static final String[] COUNTS = {"", "0", "1", "2", "3", "10", "11", "12", "13", "98", "99", "100"};
+    private static final int[] ROWS = {0, 3, 5};
+
+    private static String dots(int count) {
+        return ".".repeat(count);
     }
 
-    private static void after(String where, String sequence, String[] signs, String[] styles) {
-        Probe probe = filled();
-        probe.csi(where + "H").csi(sequence);
-        for (int row = 0; row < signs.length; row++) {
-            String what = sequence + " at " + where + ", row " + row;
-            Check.due(what + ", signs", probe.line(row), signs[row]);
-            Check.due(what + ", styles", probe.styles(row), styles[row]);
-        }
-        Check.due("pen after " + sequence, probe.ask().pen(), 6);
-        String[] place = where.split(";");
-        int row = Integer.parseInt(place[0]) - 1;
-        int column = Integer.parseInt(place[1]) - 1;
-        Check.due("cursor after " + sequence, probe.cursor(), row + "," + column);
+    /** The row of the cursor is due as given, all others as they were, and the cursor and pen too. */
+    private static void inItsRow(String sequence, int row, int column, String signs) {
+        String[] due = Full.SIGNS.clone();
+        due[row] = signs;
+        onTheScreen(sequence, row, column, due);
     }
 
-    private static void inRowOne(String where, String sequence, String signs, String styles) {
-        after(where, sequence,
-            new String[] {"abcdefghijkl", signs, "012........."},
-            new String[] {"111111111111", styles, "666000000000"});
+    private static void onTheScreen(String sequence, int row, int column, String[] due) {
+        Probe probe = Full.screen("2;3", row, column).csi(sequence);
+        String what = sequence + " in " + row + ", " + column;
+        Full.cellsDue(what, probe, due);
+        Check.due(what + ", cursor", probe.cursor(), row + "," + column);
+        Check.due(what + ", pen", probe.pen(), 6);
+        Check.due(what + ", rows kept", probe.keptRows(), 0);
     }
 
+    /** 'p = 0 the cursor's and all behind it in its row, and all rows below; 1 all rows above, and .. all up to the cursor's; 2 all'. */
     private static void screen() {
-        after("2;4", "J", new String[] {"abcdefghijkl", "ABC.........", "............"},
-            new String[] {"111111111111", "222000000000", "000000000000"});
-        after("2;4", "0J", new String[] {"abcdefghijkl", "ABC.........", "............"},
-            new String[] {"111111111111", "222000000000", "000000000000"});
-        after("2;4", "1J", new String[] {"............", "....EFGHIJKL", "012........."},
-            new String[] {"000000000000", "000022222222", "666000000000"});
-        after("2;4", "2J", new String[] {"............", "............", "............"},
-            new String[] {"000000000000", "000000000000", "000000000000"});
-        inRowOne("2;4", "3J", "ABCDEFGHIJKL", "222222222222");
-        inRowOne("2;4", "99J", "ABCDEFGHIJKL", "222222222222");
-        inRowOne("2;4", "3;2J", "ABCDEFGHIJKL", "222222222222");
+        for (int row = 0; row < 6; row++) {
+            for (int column : new int[] {0, 1, 5, 10, 11}) {
+                String[] behind = Full.SIGNS.clone();
+                String[] before = Full.SIGNS.clone();
+                String[] all = Full.SIGNS.clone();
+                for (int other = 0; other < 6; other++) {
+                    all[other] = dots(12);
+                    behind[other] = other > row ? dots(12) : behind[other];
+                    before[other] = other < row ? dots(12) : before[other];
+                }
+                behind[row] = behind[row].substring(0, column) + dots(12 - column);
+                before[row] = dots(column + 1) + before[row].substring(column + 1);
+                onTheScreen("J", row, column, behind);
+                onTheScreen("0J", row, column, behind);
+                onTheScreen("1J", row, column, before);
+                onTheScreen("2J", row, column, all);
+            }
+        }
     }
 
-    private static void corners() {
-        Probe probe = new Probe();
-        probe.fillRows().csi("6;12H").type("z").csi("J");
-        Check.due("0J in the last cell", probe.line(5), "f...........");
-        Check.due("0J in the last cell, other rows", probe.firstSigns(), "abcdef");
-        probe.csi("H").csi("1J");
-        Check.due("1J in the first cell", probe.firstSigns(), ".bcdef");
-        probe.csi("6;12H").csi("1J");
-        Check.due("1J in the last cell", probe.firstSigns(), "......");
-    }
-
+    /** 'K likewise, in the cursor's row only'. */
     private static void row() {
-        inRowOne("2;4", "K", "ABC.........", "222000000000");
-        inRowOne("2;4", "0K", "ABC.........", "222000000000");
-        inRowOne("2;4", "1K", "....EFGHIJKL", "000022222222");
-        inRowOne("2;4", "2K", "............", "000000000000");
-        inRowOne("2;4", "3K", "ABCDEFGHIJKL", "222222222222");
-        inRowOne("2;12", "K", "ABCDEFGHIJK.", "222222222220");
-        inRowOne("2;1", "1K", ".BCDEFGHIJKL", "022222222222");
+        for (int row : ROWS) {
+            for (int column = 0; column < 12; column++) {
+                String signs = Full.SIGNS[row];
+                inItsRow("K", row, column, signs.substring(0, column) + dots(12 - column));
+                inItsRow("0K", row, column, signs.substring(0, column) + dots(12 - column));
+                inItsRow("1K", row, column, dots(column + 1) + signs.substring(column + 1));
+                inItsRow("2K", row, column, dots(12));
+            }
+        }
     }
 
+    /** 'other p none'; q does not count. */
+    private static void otherNumbers() {
+        String[] others = {"3", "4", "5", "9", "10", "11", "12", "20", "21", "22", "98", "99", "100", "101", "102", "256", "258", "3;0", "3;1",
+            "3;2"};
+        for (String p : others) {
+            inItsRow(p + "J", 2, 5, Full.SIGNS[2]);
+            inItsRow(p + "K", 2, 5, Full.SIGNS[2]);
+        }
+        inItsRow("0;2K", 2, 5, "01234.......");
+        inItsRow(";1K", 2, 5, "01234.......");
+        inItsRow("1;2K", 2, 5, "......678901");
+    }
+
+    /** How many cells a number means, from a column to the end of the row at most; 'n is p, or 1 when p is 0'. */
+    private static int cells(String count, int column) {
+        int n = count.isEmpty() || count.equals("0") ? 1 : Integer.parseInt(count);
+        return Math.min(n, 12 - column);
+    }
+
+    /** 'X n cells from the cursor on, in its row', 'P .. empty ones come in at its end', '@ .. those beyond the end are lost'. */
     private static void someCells() {
-        inRowOne("2;4", "X", "ABC.EFGHIJKL", "222022222222");
-        inRowOne("2;4", "0X", "ABC.EFGHIJKL", "222022222222");
-        inRowOne("2;4", "3X", "ABC...GHIJKL", "222000222222");
-        inRowOne("2;4", "9X", "ABC.........", "222000000000");
-        inRowOne("2;4", "99X", "ABC.........", "222000000000");
-        inRowOne("2;12", "2X", "ABCDEFGHIJK.", "222222222220");
+        for (int row : ROWS) {
+            for (int column = 0; column < 12; column++) {
+                for (String count : COUNTS) {
+                    String signs = Full.SIGNS[row];
+                    String before = signs.substring(0, column);
+                    int n = cells(count, column);
+                    inItsRow(count + "X", row, column, before + dots(n) + signs.substring(column + n));
+                    inItsRow(count + "P", row, column, before + signs.substring(column + n) + dots(n));
+                    inItsRow(count + "@", row, column, before + dots(n) + signs.substring(column, 12 - n));
+                }
+            }
+        }
     }
 
-    private static void takeOut() {
-        inRowOne("2;4", "P", "ABCEFGHIJKL.", "222222222220");
-        inRowOne("2;4", "0P", "ABCEFGHIJKL.", "222222222220");
-        inRowOne("2;4", "3P", "ABCGHIJKL...", "222222222000");
-        inRowOne("2;4", "8P", "ABCL........", "222200000000");
-        inRowOne("2;4", "9P", "ABC.........", "222000000000");
-        inRowOne("2;4", "99P", "ABC.........", "222000000000");
-        inRowOne("2;12", "P", "ABCDEFGHIJK.", "222222222220");
+    /** Just up to the end of the row, one less and one more, in numbers. */
+    private static void upToTheEnd() {
+        inItsRow("8X", 0, 3, "abc........l");
+        inItsRow("9X", 0, 3, "abc.........");
+        inItsRow("10X", 0, 3, "abc.........");
+        inItsRow("8P", 0, 3, "abcl........");
+        inItsRow("9P", 0, 3, "abc.........");
+        inItsRow("10P", 0, 3, "abc.........");
+        inItsRow("8@", 0, 3, "abc........d");
+        inItsRow("9@", 0, 3, "abc.........");
+        inItsRow("10@", 0, 3, "abc.........");
     }
 
-    private static void putIn() {
-        inRowOne("2;4", "@", "ABC.DEFGHIJK", "222022222222");
-        inRowOne("2;4", "0@", "ABC.DEFGHIJK", "222022222222");
-        inRowOne("2;4", "3@", "ABC...DEFGHI", "222000222222");
-        inRowOne("2;4", "8@", "ABC........D", "222000000002");
-        inRowOne("2;4", "9@", "ABC.........", "222000000000");
-        inRowOne("2;4", "99@", "ABC.........", "222000000000");
-        inRowOne("2;12", "@", "ABCDEFGHIJK.", "222222222220");
+    /** An emptied cell is empty, whatever the pen: what a new screen shows is not stale then. */
+    private static void emptyMeansStyleZero() {
+        for (String sequence : new String[] {"2J", "2K", "99X", "99P", "99@", "99L", "99M", "99S", "99T"}) {
+            Probe probe = new Probe().csi("1;4;7m").type("abc").csi("1G").csi(sequence);
+            Check.due("stale after " + sequence, probe.stale(), 0);
+            Check.due("pen after " + sequence, probe.pen(), 7);
+        }
     }
 
     public static void main(String[] args) {
         screen();
-        corners();
         row();
+        otherNumbers();
         someCells();
-        takeOut();
-        putIn();
+        upToTheEnd();
+        emptyMeansStyleZero();
         Check.end();
     }
 }

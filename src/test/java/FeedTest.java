@@ -1,51 +1,88 @@
-/** Promises 2 and 3 (what is fed and what is refused), 4 to 8 (signs, WAITS, the bytes outside of a sequence). */
+/** Promises 2 and 3, and the rows of 'Terms' for the bytes outside of a sequence, but for LINE FEED (LineFeedTest). */
 public final class FeedTest {
-    private static void wrongBytes() {
-        Probe probe = new Probe();
-        probe.csi("3");
-        for (int b : new int[] {-1, 128, 129, 155, 256 + 65, -128 + 65, Integer.MIN_VALUE, Integer.MAX_VALUE}) {
-            Check.due("feed(" + b + ")", probe.ask().feed(b), false);
-        }
-        for (int b : new int[] {-1, 2097152, 2097153, 2097152 + 65, Integer.MIN_VALUE, Integer.MAX_VALUE}) {
-            Check.due("feedThree(" + b + ")", probe.ask().feedThree(b), false);
-        }
-        Check.due("sequence goes on", probe.ask().sequence(), 2);
-        probe.type("C");
-        Check.due("cursor", probe.cursor(), "0,3");
-        Check.due("nothing is written", probe.ask().stale(), 0);
-        Check.due("feed(0)", probe.ask().feed(0), true);
-        Check.due("feed(127)", probe.ask().feed(127), true);
-        Check.due("cursor after 0 and 127", probe.cursor(), "0,3");
-    }
+    private static final String ROW = "abcdefghijkl";
+    private static final String NEXT_ROW = "ABCDEFGHIJKL";
 
+    /** 'b + 128 * c + 16384 * d, b first'. */
     private static void threeAtOnce() {
         Probe probe = new Probe();
-        Check.due("feedThree a b c", probe.ask().feedThree('a' + 128 * 'b' + 16384 * 'c'), true);
+        Check.due("feedThree a b c", probe.feedThree('a' + 128 * 'b' + 16384 * 'c'), true);
         Check.due("b first", probe.line(0), "abc.........");
-        Check.due("feedThree(0)", probe.ask().feedThree(0), true);
-        Check.due("feedThree(2097151)", probe.ask().feedThree(2097151), true);
+        Check.due("feedThree(0)", probe.feedThree(0), true);
+        Check.due("feedThree(2097151)", probe.feedThree(2097151), true);
         Check.due("three bytes that do nothing", probe.cursor(), "0,3");
-        Check.due("feedThree 27 [ H", probe.ask().feedThree(27 + 128 * '[' + 16384 * 'H'), true);
+        Check.due("feedThree 126 126 126", probe.feedThree(126 + 128 * 126 + 16384 * 126), true);
+        Check.due("the greatest signs", probe.line(0), "abc~~~......");
+        Check.due("feedThree 27 [ H", probe.feedThree(27 + 128 * '[' + 16384 * 'H'), true);
         Check.due("a whole sequence", probe.cursor(), "0,0");
-        Check.due("feedThree x 27 [", probe.ask().feedThree('x' + 128 * 27 + 16384 * '['), true);
-        Check.due("the sequence stays open", probe.ask().sequence(), 2);
+        Check.due("feedThree x 27 [", probe.feedThree('x' + 128 * 27 + 16384 * '['), true);
+        Check.due("the sequence stays open", probe.sequence(), 2);
     }
 
-    private static void signsAndWrap() {
-        Probe probe = new Probe();
-        probe.type(" !~").bytes(127, 31, 0, 7, 11, 12, 14);
-        Check.due("32, 33 and 126 are signs", probe.ask().sign(0, 2), 126);
-        Check.due("other bytes do nothing", probe.cursor(), "0,3");
-        probe.type("defghijk");
-        Check.due("at column 11", probe.cursor(), "0,11");
+    /** '32 .. 126 a sign': the first, the last and all between; one cell changes and no other. */
+    private static void everySign() {
+        for (int b = 32; b <= 126; b++) {
+            Probe probe = new Probe().csi("3;6H").csi("1;7m").bytes(b);
+            Check.due("sign " + b, probe.sign(2, 5), b);
+            Check.due("style of sign " + b, probe.style(2, 5), 5);
+            Check.due("cursor after sign " + b, probe.cursor(), "2,6");
+            Check.due("cells changed by sign " + b, probe.stale(), 1);
+            Check.due("sequence after sign " + b, probe.sequence(), 0);
+        }
+    }
+
+    /** 'Other bytes do nothing.' */
+    private static void otherBytes() {
+        for (int b = 0; b <= 127; b++) {
+            boolean named = b == 8 || b == 9 || b == 10 || b == 13 || b == 27 || b >= 32 && b <= 126;
+            if (!named) {
+                int other = b;
+                Twins.alike("byte " + b, "", probe -> probe.bytes(other));
+                Twins.alike("byte " + b, Twins.BUSY, probe -> probe.bytes(other));
+                Twins.alike("byte " + b, Twins.BUSY_OTHER, probe -> probe.bytes(other));
+            }
+        }
+    }
+
+    /** 'The cell at the cursor gets the sign and the pen', with every pen. */
+    private static void everyPen() {
+        String[] pens = {"0", "1", "4", "1;4", "7", "1;7", "4;7", "1;4;7"};
+        for (int pen = 0; pen < 8; pen++) {
+            Probe probe = new Probe().type("a").csi("0;" + pens[pen] + "m").type("~").csi("m").type("b");
+            Check.due("signs, pen " + pen, probe.line(0), "a~b.........");
+            Check.due("styles, pen " + pen, probe.styles(0), "0" + pen + "0000000000");
+        }
+    }
+
+    /** 'In column 11 WAITS is switched on if WRAP is on; else the column grows by 1.' */
+    private static void signInEachColumn() {
+        for (int column = 0; column < 12; column++) {
+            String place = "3;" + (column + 1) + "H";
+            String after = column == 11 ? "2,11" : "2," + (column + 1);
+            Probe on = new Probe().csi(place).type("x");
+            Check.due("WRAP on, a sign in column " + column, on.cursor(), column == 11 ? after + "W" : after);
+            Probe off = new Probe().csi("?7l").csi(place).type("x");
+            Check.due("WRAP off, a sign in column " + column, off.cursor(), after);
+            Check.due("the sign stands in column " + column, on.sign(2, column), (int) 'x');
+            Check.due("WRAP off, the sign stands in column " + column, off.sign(2, column), (int) 'x');
+        }
+    }
+
+    /** 'if WAITS is on, first the column becomes 0 and a LINE FEED is done'. */
+    private static void wrapping() {
+        Probe probe = new Probe().type("abcdefghijk");
+        Check.due("eleven signs", probe.cursor(), "0,11");
         probe.type("l");
-        Check.due("WAITS in column 11", probe.cursor(), "0,11W");
-        probe.bytes(127, 0, 1);
-        Check.due("other bytes leave WAITS", probe.cursor(), "0,11W");
+        Check.due("twelve signs", probe.cursor(), "0,11W");
         probe.type("m");
-        Check.due("wrapped", probe.cursor(), "1,1");
-        Check.due("row 0", probe.line(0), ".!~defghijkl");
+        Check.due("thirteen signs", probe.cursor(), "1,1");
+        Check.due("row 0", probe.line(0), "abcdefghijkl");
         Check.due("row 1", probe.line(1), "m...........");
+        probe.csi("2;12H").type("n").csi("4m").type("o");
+        Check.due("the pen may change while WAITS is on", probe.cursor(), "2,1");
+        Check.due("styles of row 2", probe.styles(2), "200000000000");
+        Probe without = new Probe().csi("12G").type("x").csi("12G").type("y");
+        Check.due("in column 11 without WAITS nothing wraps", without.line(0), "...........y");
     }
 
     private static void wrapOff() {
@@ -63,78 +100,68 @@ public final class FeedTest {
         Check.due("row 1", probe.line(1), "d...........");
     }
 
-    private static void wrapScrolls() {
-        Probe probe = new Probe();
-        probe.fillRows().csi("6;12H").type("xy");
-        Check.due("the wrap scrolls", probe.firstSigns(), "bcdefy");
-        Check.due("the row lost is kept", probe.firstKept(), "a");
-        Check.due("row 4", probe.line(4), "f..........x");
-        Check.due("cursor", probe.cursor(), "5,1");
-    }
-
-    private static void insertMode() {
-        Probe probe = new Probe();
-        probe.type("abcdefghijkl").csi("4h").csi("3G").csi("1m").type("X");
-        Check.due("the row moves", probe.line(0), "abXcdefghijk");
-        Check.due("with the pen", probe.styles(0), "001000000000");
-        probe.csi("12G").type("Y");
-        Check.due("in the last column", probe.line(0), "abXcdefghijY");
-        Check.due("WAITS", probe.cursor(), "0,11W");
-        probe.type("Z");
-        Check.due("insert after the wrap leaves row 0", probe.line(0), "abXcdefghijY");
-        Check.due("insert after the wrap", probe.line(1), "Z...........");
-        probe.csi("1G").type("W");
-        Check.due("styles move too", probe.styles(1), "110000000000");
-    }
-
-    private static void backTabReturn() {
-        Probe probe = new Probe();
-        probe.bytes(8);
-        Check.due("8 in column 0", probe.cursor(), "0,0");
-        String[] stops = {"0,4", "0,4", "0,4", "0,4", "0,8", "0,8", "0,8", "0,8", "0,11", "0,11", "0,11", "0,11"};
+    /** 'the cells of the row from the cursor on move one to the right, the last one being lost'. */
+    private static void insertInEachColumn() {
         for (int column = 0; column < 12; column++) {
-            probe.csi((column + 1) + "G").bytes(9);
-            Check.due("9 in column " + column, probe.cursor(), stops[column]);
-        }
-        probe.bytes(8);
-        Check.due("8", probe.cursor(), "0,10");
-        probe.bytes(13);
-        Check.due("13", probe.cursor(), "0,0");
-    }
-
-    private static void controlsEndWaits() {
-        String[] due = {"0,10", "0,11", "1,11", "0,0"};
-        int[] controls = {8, 9, 10, 13};
-        for (int i = 0; i < controls.length; i++) {
-            Probe probe = new Probe();
-            probe.csi("12G").type("x").bytes(controls[i]);
-            Check.due("WAITS and " + controls[i], probe.cursor(), due[i]);
+            Probe probe = new Probe().csi("1m").type(ROW).csi("4m").type(NEXT_ROW).csi("4h");
+            probe.csi("1;" + (column + 1) + "H").csi("0;7m").type("#");
+            String what = "INSERT in column " + column;
+            Check.due(what, probe.line(0), ROW.substring(0, column) + "#" + ROW.substring(column, 11));
+            Check.due(what + ", styles", probe.styles(0), "1".repeat(column) + "4" + "1".repeat(11 - column));
+            Check.due(what + ", the next row", probe.line(1), NEXT_ROW);
+            Check.due(what + ", the next row's styles", probe.styles(1), "333333333333");
+            Check.due(what + ", cursor", probe.cursor(), column == 11 ? "0,11W" : "0," + (column + 1));
         }
     }
 
-    private static void lineFeeds() {
-        Probe probe = new Probe();
-        probe.csi("3G").bytes(10);
-        Check.due("10 keeps the column", probe.cursor(), "1,2");
-        probe.csi("2;4r").csi("4;5H").bytes(10);
-        Check.due("at the bottom of the region", probe.cursor(), "3,4");
-        probe.csi("5;1H").bytes(10, 10, 10);
-        Check.due("below the region", probe.cursor(), "5,0");
-        Check.due("nothing scrolls off", probe.ask().keptRows(), 0);
-        probe.csi("1;1H").bytes(10);
-        Check.due("above the region", probe.cursor(), "1,0");
+    private static void insertAndOver() {
+        Probe probe = new Probe().type(ROW).csi("3G").type("X");
+        Check.due("INSERT off", probe.line(0), "abXdefghijkl");
+        probe.csi("4h").csi("12G").type("Y").type("Z");
+        Check.due("INSERT behind WAITS leaves the row", probe.line(0), "abXdefghijkY");
+        Check.due("INSERT behind WAITS is done in the next row", probe.line(1), "Z...........");
+        probe.csi("?7l").csi("1;12H").type("VW");
+        Check.due("INSERT in column 11, WRAP off", probe.line(0), "abXdefghijkW");
+        Check.due("cursor", probe.cursor(), "0,11");
+    }
+
+    /** '8 the column becomes 1 less, if it is not 0', '9 .. the next multiple of 4 above it, at most 11', '13 .. 0'. */
+    private static void backTabReturn() {
+        int[] tabs = {4, 4, 4, 4, 8, 8, 8, 8, 11, 11, 11, 11};
+        for (int row : new int[] {0, 3, 5}) {
+            for (int column = 0; column < 12; column++) {
+                String place = (row + 1) + ";" + (column + 1) + "H";
+                String from = " in " + row + ", " + column;
+                Check.due("8" + from, new Probe().csi(place).bytes(8).cursor(), row + "," + Math.max(column - 1, 0));
+                Check.due("9" + from, new Probe().csi(place).bytes(9).cursor(), row + "," + tabs[column]);
+                Check.due("13" + from, new Probe().csi(place).bytes(13).cursor(), row + ",0");
+            }
+        }
+    }
+
+    /** These bytes move the cursor alone: no cell, no kept row, no mode changes. */
+    private static void movesTouchNothing() {
+        String back = "\u001b[4;6H";
+        for (int b : new int[] {8, 9, 13}) {
+            Twins.alike("byte " + b + " and back", Twins.BUSY + back, probe -> probe.bytes(b).type(back));
+        }
+        Twins.alike("8 in column 0", Twins.BUSY + "\u001b[4;1H", probe -> probe.bytes(8));
+        Twins.alike("9 in column 11", Twins.BUSY + "\u001b[4;12H", probe -> probe.bytes(9));
+        Twins.alike("13 in column 0", Twins.BUSY + "\u001b[4;1H", probe -> probe.bytes(13));
     }
 
     public static void main(String[] args) {
-        wrongBytes();
         threeAtOnce();
-        signsAndWrap();
+        everySign();
+        otherBytes();
+        everyPen();
+        signInEachColumn();
+        wrapping();
         wrapOff();
-        wrapScrolls();
-        insertMode();
+        insertInEachColumn();
+        insertAndOver();
         backTabReturn();
-        controlsEndWaits();
-        lineFeeds();
+        movesTouchNothing();
         Check.end();
     }
 }

@@ -1,9 +1,13 @@
 /**
- * Long mixed runs, the same each time: no call throws, every answer stays in its range, and the
- * answers agree with each other (LANGUAGE.md, rule 7; promises 2 to 18).
+ * Long mixed runs, the same each time, on the program and on the model: the answers to every call
+ * and, at the end of the run, everything that can be asked (promises 2 to 18; LANGUAGE.md, rule 7).
  */
 public final class MixedTest {
-    private static final String LIKELY = "\u001b\u001b\u001b[[[?;0123456789ABCDGHJKLMPSTX@dhlmrc7 8E\n\r\t\bxyz";
+    private static final int RUNS = 12000;
+    private static final int MOST_CALLS = 180;
+    private static final String LAST = "ABCDGdHJKXP@LMSTrmhl";
+    private static final String[] NUMBERS = {"", "", "0", "1", "2", "3", "4", "5", "6", "7", "8", "11", "12", "13", "22", "24", "27", "99", "100"};
+    private static final String CONTROLS = "\b\t\n\n\r\u0000\u0007\u007f";
     private static long state = 1;
 
     /** A number 0 .. bound - 1 from a plain linear rule, so that every run is alike. */
@@ -12,73 +16,84 @@ public final class MixedTest {
         return (int) ((state >>> 33) % bound);
     }
 
-    private static int nextByte() {
-        return next(8) == 0 ? next(128) : LIKELY.charAt(next(LIKELY.length()));
+    private static char oneOf(String text) {
+        return text.charAt(next(text.length()));
     }
 
-    private static void within(String what, int got, int least, int most) {
-        if (got < least || got > most) {
-            Check.due(what + " within " + least + " .. " + most, got, least);
+    private static String numbers() {
+        StringBuilder text = new StringBuilder(NUMBERS[next(NUMBERS.length)]);
+        for (int i = next(6) - 1; i > 0; i--) {
+            text.append(';').append(NUMBERS[next(NUMBERS.length)]);
+        }
+        return text.toString();
+    }
+
+    /** Signs, bytes that move, whole sequences, and now and then a byte or a piece that fits nowhere. */
+    private static String piece() {
+        switch (next(10)) {
+            case 0: case 1: return "abcdefghijklmnopqrstuvwxyz".substring(next(20)).substring(0, next(6));
+            case 2: return "0123456789AB";
+            case 3: return "" + oneOf(CONTROLS);
+            case 4: return "\u001b" + (next(12) == 0 ? 'c' : oneOf("78DEM"));
+            case 5: return "\u001b[?" + (next(4) == 0 ? numbers() : next(2) == 0 ? "7" : "49") + oneOf("hl");
+            case 6: return "\u001b[" + oneOf("4444456") + oneOf("hl");
+            case 7: return next(3) != 0 ? "" : "\u001b[" + numbers() + (char) next(128);
+            case 8: return next(3) != 0 ? "" : "" + (char) next(128) + (char) next(128);
+            default: return "\u001b[" + numbers() + oneOf(LAST);
         }
     }
 
-    private static void look(TerminalStack stack) {
-        within("row", stack.row(), 0, 5);
-        within("column", stack.column(), 0, 11);
-        within("pen", stack.pen(), 0, 7);
-        within("modes", stack.modes(), 0, 7);
-        within("sequence", stack.sequence(), 0, 2);
-        within("keptRows", stack.keptRows(), 0, 8);
-        within("top", stack.region() % 10, 0, 4);
-        within("bottom", stack.region() / 10, stack.region() % 10 + 1, 5);
-        if (stack.waits()) {
-            within("column of WAITS", stack.column(), 11, 11);
+    private static String stream(int length) {
+        StringBuilder text = new StringBuilder();
+        while (text.length() < length) {
+            text.append(piece());
         }
+        return text.toString();
+    }
+
+    /** A call out of its range, or a question; both must answer alike. */
+    private static void ask(Probe probe, Model model) {
         int row = next(8) - 1;
         int column = next(14) - 1;
-        boolean there = row >= 0 && row < 6 && column >= 0 && column < 12;
-        within("sign", stack.sign(row, column), there ? 32 : -1, there ? 126 : -1);
-        within("style", stack.style(row, column), there ? 0 : -1, there ? 7 : -1);
-        within("shown", stack.shown(row, column), there ? 32 : -1, there ? 126 + 128 * 7 : -1);
-        int i = next(10) - 1;
-        boolean kept = i >= 0 && i < stack.keptRows() && column >= 0 && column < 12;
-        within("kept", stack.kept(i, column), kept ? 32 : -1, kept ? 126 : -1);
+        int i = next(11) - 1;
+        switch (next(8)) {
+            case 0: Check.due("feed", probe.feed(128 + row), model.feed(128 + row)); break;
+            case 1: Check.due("feedThree", probe.feedThree(-1 - i), model.feedThree(-1 - i)); break;
+            case 2: Check.due("refresh", probe.refresh(), model.refresh()); break;
+            case 3: Check.due("sign", probe.sign(row, column), model.sign(row, column)); break;
+            case 4: Check.due("style", probe.style(row, column), model.style(row, column)); break;
+            case 5: Check.due("shown", probe.shown(row, column), model.shown(row, column)); break;
+            case 6: Check.due("kept", probe.kept(i, column), model.kept(i, column)); break;
+            default: Check.due("stale", probe.stale(), model.stale()); break;
+        }
     }
 
-    private static void bringUpToDate(TerminalStack stack) {
-        int stale = stack.stale();
-        Check.due("refresh answers what stale did", stack.refresh(), stale);
-        Check.due("stale after refresh", stack.stale(), 0);
-        int row = next(6);
-        int column = next(12);
-        Check.due("shown", stack.shown(row, column), stack.sign(row, column) + 128 * stack.style(row, column));
-    }
-
-    /** One is fed byte by byte, the other by threes: they must not come to differ. */
-    private static void run() {
-        TerminalStack one = new TerminalStack();
-        TerminalStack three = new TerminalStack();
-        for (int step = 0; step < 100; step++) {
-            int b = nextByte();
-            int c = nextByte();
-            int d = nextByte();
-            boolean fed = one.feed(b) && one.feed(c) && one.feed(d);
-            Check.due("feed", fed, true);
-            Check.due("feedThree", three.feedThree(b + 128 * c + 16384 * d), true);
+    private static void run(int number) {
+        Probe probe = new Probe();
+        Model model = new Model();
+        int calls = 1 + next(MOST_CALLS);
+        String text = stream(3 * calls);
+        int at = 0;
+        for (int call = 0; call < calls; call++) {
+            int kind = next(12);
+            if (kind == 0) {
+                ask(probe, model);
+            } else if (kind < 6) {
+                int bytes = text.charAt(at) + 128 * text.charAt(at + 1) + 16384 * text.charAt(at + 2);
+                Check.due("feedThree", probe.feedThree(bytes), model.feedThree(bytes));
+                at += 3;
+            } else {
+                Check.due("feed", probe.feed(text.charAt(at)), model.feed(text.charAt(at)));
+                at++;
+            }
         }
-        look(one);
-        bringUpToDate(one);
-        three.refresh();
-        for (int at = 0; at < 72; at++) {
-            Check.due("shown by both", three.shown(at / 12, at % 12), one.shown(at / 12, at % 12));
-        }
-        Check.due("cursor of both", three.row() * 12 + three.column(), one.row() * 12 + one.column());
-        Check.due("modes of both", three.modes(), one.modes());
+        String fed = text.substring(0, at).replace("\u001b", " 27 ");
+        Check.due("run " + number + ", fed with " + fed, probe.picture(), model.picture());
     }
 
     public static void main(String[] args) {
-        for (int i = 0; i < 3000; i++) {
-            run();
+        for (int i = 0; i < RUNS; i++) {
+            run(i);
         }
         Check.end();
     }

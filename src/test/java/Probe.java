@@ -1,9 +1,9 @@
-/** A TerminalStack that is fed with text and asked for whole rows, within its 512 calls. */
-final class Probe {
+/** A TerminalStack that is fed with text and asked within its 512 calls. */
+final class Probe implements Screen {
     private final TerminalStack stack = new TerminalStack();
     private int calls = 0;
 
-    /** The object itself, for a call that has no shorthand here. */
+    /** The object itself, for one call. */
     TerminalStack ask() {
         calls++;
         if (calls > 512) {
@@ -14,16 +14,26 @@ final class Probe {
 
     Probe type(String text) {
         for (int i = 0; i < text.length(); i++) {
-            Check.due("feed(" + (int) text.charAt(i) + ")", ask().feed(text.charAt(i)), true);
+            bytes(text.charAt(i));
         }
         return this;
     }
 
     Probe bytes(int... bytes) {
         for (int b : bytes) {
-            Check.due("feed(" + b + ")", ask().feed(b), true);
+            Check.due("feed(" + b + ")", feed(b), true);
         }
         return this;
+    }
+
+    /** The same as type, in a third of the calls. */
+    Probe threes(String text) {
+        int whole = text.length() / 3 * 3;
+        for (int i = 0; i < whole; i += 3) {
+            int bytes = text.charAt(i) + 128 * text.charAt(i + 1) + 16384 * text.charAt(i + 2);
+            Check.due("feedThree(" + bytes + ")", feedThree(bytes), true);
+        }
+        return type(text.substring(whole));
     }
 
     /** 27 and what comes behind it. */
@@ -41,48 +51,83 @@ final class Probe {
         return type("a\r\nb\r\nc\r\nd\r\ne\r\nf");
     }
 
-    /** The signs of a row, a dot for a blank one. */
-    String line(int row) {
-        StringBuilder text = new StringBuilder();
-        for (int column = 0; column < 12; column++) {
-            int sign = ask().sign(row, column);
-            text.append(sign == 32 ? '.' : (char) sign);
-        }
-        return text.toString();
+    @Override
+    public boolean feed(int b) {
+        return ask().feed(b);
     }
 
-    /** The styles of a row, a digit each. */
-    String styles(int row) {
-        StringBuilder text = new StringBuilder();
-        for (int column = 0; column < 12; column++) {
-            text.append(ask().style(row, column));
-        }
-        return text.toString();
+    @Override
+    public boolean feedThree(int bytes) {
+        return ask().feedThree(bytes);
     }
 
-    /** The first sign of each row, a dot for a blank one. */
-    String firstSigns() {
-        StringBuilder text = new StringBuilder();
-        for (int row = 0; row < 6; row++) {
-            int sign = ask().sign(row, 0);
-            text.append(sign == 32 ? '.' : (char) sign);
-        }
-        return text.toString();
+    @Override
+    public int sign(int row, int column) {
+        return ask().sign(row, column);
     }
 
-    /** The first sign of each row kept off the screen, the one lost last first. */
-    String firstKept() {
-        StringBuilder text = new StringBuilder();
-        int count = ask().keptRows();
-        for (int i = 0; i < count; i++) {
-            int sign = ask().kept(i, 0);
-            text.append(sign == 32 ? '.' : (char) sign);
-        }
-        return text.toString();
+    @Override
+    public int style(int row, int column) {
+        return ask().style(row, column);
     }
 
-    /** Row and column, and a W when WAITS is on. */
-    String cursor() {
-        return ask().row() + "," + ask().column() + (ask().waits() ? "W" : "");
+    @Override
+    public int row() {
+        return ask().row();
+    }
+
+    @Override
+    public int column() {
+        return ask().column();
+    }
+
+    @Override
+    public boolean waits() {
+        return ask().waits();
+    }
+
+    @Override
+    public int pen() {
+        return ask().pen();
+    }
+
+    @Override
+    public int region() {
+        return ask().region();
+    }
+
+    @Override
+    public int modes() {
+        return ask().modes();
+    }
+
+    @Override
+    public int sequence() {
+        return ask().sequence();
+    }
+
+    @Override
+    public int keptRows() {
+        return ask().keptRows();
+    }
+
+    @Override
+    public int kept(int i, int column) {
+        return ask().kept(i, column);
+    }
+
+    @Override
+    public int refresh() {
+        return ask().refresh();
+    }
+
+    @Override
+    public int shown(int row, int column) {
+        return ask().shown(row, column);
+    }
+
+    @Override
+    public int stale() {
+        return ask().stale();
     }
 }
