@@ -69,9 +69,23 @@ public final class CallsTest {
         longSequence(";".repeat(1500), "1C", "0,1", 0);
     }
 
+    /** Behind the 512th call the answers are free, but none may throw (LANGUAGE.md, rule 7). */
+    private static void manyCallsMore() {
+        TerminalStack stack = new TerminalStack();
+        int sum = 0;
+        for (int call = 0; call < 300000; call++) {
+            stack.feed(call % 128);
+            stack.feedThree(call * 7 % 2097152);
+            int place = call % 20 - 4;
+            sum += stack.sign(place, place) + stack.kept(place, place) + stack.shown(place, place) + stack.refresh();
+        }
+        Check.due("all calls came back, with answers that add up to " + sum, true, true);
+    }
+
     public static void main(String[] args) {
         everyCallAsTheLast();
         theLongestSequences();
+        manyCallsMore();
         Check.end();
     }
 }

@@ -1,7 +1,14 @@
 /** Counts the answers that are not as due and ends a test with the exit code that .ci/run reads. */
 final class Check {
+    private static final int MOST_SECONDS = 300;
     private static int wrong = 0;
     private static int asked = 0;
+
+    static {
+        Thread watch = new Thread(Check::endWhatDoesNotEnd);
+        watch.setDaemon(true);
+        watch.start();
+    }
 
     private Check() {
     }
@@ -19,5 +26,16 @@ final class Check {
         if (wrong != 0 || asked == 0) {
             System.exit(1);
         }
+    }
+
+    /** A call that fails to end must fail the test, too; the tests need a few seconds each. */
+    private static void endWhatDoesNotEnd() {
+        try {
+            Thread.sleep(1000L * MOST_SECONDS);
+        } catch (InterruptedException e) {
+            Thread.currentThread().interrupt();
+        }
+        System.out.println("not at its end after " + MOST_SECONDS + " seconds");
+        Runtime.getRuntime().halt(1);
     }
 }

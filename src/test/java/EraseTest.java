@@ -14,13 +14,16 @@ public final class EraseTest {
         onTheScreen(sequence, row, column, due);
     }
 
+    /** The region has no say here, be the cursor in it or not. */
     private static void onTheScreen(String sequence, int row, int column, String[] due) {
-        Probe probe = Full.screen("2;3", row, column).csi(sequence);
-        String what = sequence + " in " + row + ", " + column;
-        Full.cellsDue(what, probe, due);
-        Check.due(what + ", cursor", probe.cursor(), row + "," + column);
-        Check.due(what + ", pen", probe.pen(), 6);
-        Check.due(what + ", rows kept", probe.keptRows(), 0);
+        for (String region : new String[] {"1;6", "2;3"}) {
+            Probe probe = Full.screen(region, row, column).csi(sequence);
+            String what = "region " + region + ", " + sequence + " in " + row + ", " + column;
+            Full.cellsDue(what, probe, due);
+            Check.due(what + ", cursor", probe.cursor(), row + "," + column);
+            Check.due(what + ", pen", probe.pen(), 6);
+            Check.due(what + ", rows kept", probe.keptRows(), 0);
+        }
     }
 
     /** 'p = 0 the cursor's and all behind it in its row, and all rows below; 1 all rows above, and .. all up to the cursor's; 2 all'. */
@@ -62,9 +65,14 @@ public final class EraseTest {
     private static void otherNumbers() {
         String[] others = {"3", "4", "5", "9", "10", "11", "12", "20", "21", "22", "98", "99", "100", "101", "102", "256", "258", "3;0", "3;1",
             "3;2"};
+        String place = "\u001b[4;6H";
         for (String p : others) {
             inItsRow(p + "J", 2, 5, Full.SIGNS[2]);
             inItsRow(p + "K", 2, 5, Full.SIGNS[2]);
+            for (String past : new String[] {Twins.BUSY + place, Twins.BUSY_OTHER + place}) {
+                Twins.alike(p + "J", past, probe -> probe.csi(p + "J"));
+                Twins.alike(p + "K", past, probe -> probe.csi(p + "K"));
+            }
         }
         inItsRow("0;2K", 2, 5, "01234.......");
         inItsRow(";1K", 2, 5, "01234.......");

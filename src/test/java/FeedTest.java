@@ -19,6 +19,19 @@ public final class FeedTest {
         Check.due("the sequence stays open", probe.sequence(), 2);
     }
 
+    /** Three bytes are always fed: a 0 is one too, and ends a sequence in any of the three places. */
+    private static void threeWithZeros() {
+        Check.due("0 27 [", new Probe().csi("3").three(0 + 128 * 27 + 16384 * '[').sequence(), 2);
+        Check.due("0 C D", new Probe().csi("3").three(0 + 128 * 'C' + 16384 * 'D').line(0), "CD..........");
+        Check.due("3 0 C", new Probe().csi("").three('3' + 128 * 0 + 16384 * 'C').line(0), "C...........");
+        Check.due("27 [ 0", new Probe().three(27 + 128 * '[' + 16384 * 0).sequence(), 0);
+        Check.due("27 0 0", new Probe().three(27).sequence(), 0);
+        Check.due("0 0 0", new Probe().csi("3").three(0).sequence(), 0);
+        Check.due("a 0 0", new Probe().three('a').line(0), "a...........");
+        Check.due("0 a 0", new Probe().three(128 * 'a').line(0), "a...........");
+        Check.due("0 0 a", new Probe().three(16384 * 'a').line(0), "a...........");
+    }
+
     /** '32 .. 126 a sign': the first, the last and all between; one cell changes and no other. */
     private static void everySign() {
         for (int b = 32; b <= 126; b++) {
@@ -152,6 +165,7 @@ public final class FeedTest {
 
     public static void main(String[] args) {
         threeAtOnce();
+        threeWithZeros();
         everySign();
         otherBytes();
         everyPen();

@@ -103,6 +103,25 @@ public final class ModesTest {
         Check.due("the later cursor comes back", probe.cursor(), "5,5");
     }
 
+    /** All but OTHER itself and the rows kept off the screen. */
+    private static String pictureOfTheScreen(Probe probe) {
+        return probe.picture().replaceAll("modes [0-7]", "").replaceAll("\\nkept .*", "");
+    }
+
+    /** In OTHER every byte and sequence does what it does outside, only that no row is kept. */
+    private static void otherIsAScreenToo() {
+        String start = Full.bytes() + "\u001b[2;4r\u001b[3;5H";
+        String[] more = {"x", "\b", "\t", "\n", "\n\n", "\r", "\u001b7\u001b[H\u001b8", "\u001bD\u001bD", "\u001bE", "\u001bM\u001bM", "\u001b[A",
+            "\u001b[9B", "\u001b[C", "\u001b[D", "\u001b[G", "\u001b[d", "\u001b[H", "\u001b[J", "\u001b[1J", "\u001b[2J", "\u001b[K", "\u001b[1K", "\u001b[2X",
+            "\u001b[2P", "\u001b[2@", "\u001b[L", "\u001b[M", "\u001b[S", "\u001b[T", "\u001b[r\u001b[2S", "\u001b[3;6r", "\u001b[6;6r", "\u001b[1m#",
+            "\u001b[4h#", "\u001b[?7l\u001b[12G##", "\u001b[12G##", "\u001b[6;12H##"};
+        for (String bytes : more) {
+            Probe outside = new Probe().threes(start + bytes);
+            Probe inOther = new Probe().threes("\u001b[?49h" + start + bytes);
+            Check.due("in OTHER: " + bytes.replace("\u001b", "27 "), pictureOfTheScreen(inOther), pictureOfTheScreen(outside));
+        }
+    }
+
     /** The rows kept off the screen are the same in OTHER, and none comes to them. */
     private static void otherKeepsNoRows() {
         Probe probe = new Probe();
@@ -141,6 +160,7 @@ public final class ModesTest {
         otherOn();
         otherOff();
         otherAgain();
+        otherIsAScreenToo();
         otherKeepsNoRows();
         allAsAtFirst();
         shownStays();
