@@ -95,11 +95,19 @@ public final class CursorTest {
 
     /** These move the cursor and nothing else: back in its place, all is as before. */
     private static void movesTouchNothing() {
-        String back = "\u001b[4;6H";
         for (String move : new String[] {"A", "9A", "B", "9B", "C", "99C", "D", "99D", "G", "99G", "d", "99d", "H", "99;99H"}) {
-            Twins.alike(move + " and back", Twins.BUSY + back, probe -> probe.csi(move).type(back));
-            Twins.alike(move + " and back", Twins.BUSY_OTHER + back, probe -> probe.csi(move).type(back));
+            Twins.alikeAt("4;6", "\u001b[" + move + "\u001b[4;6H");
         }
+    }
+
+    /** At the bound itself there is nowhere to go. */
+    private static void atTheBound() {
+        Twins.alikeAt("1;6", "\u001b[A", "\u001b[99A", "\u001b[d", "\u001b[1d");
+        Twins.alikeAt("6;6", "\u001b[B", "\u001b[99B", "\u001b[6d", "\u001b[7d", "\u001b[99d");
+        Twins.alikeAt("4;12", "\u001b[C", "\u001b[99C", "\u001b[12G", "\u001b[13G", "\u001b[99G");
+        Twins.alikeAt("4;1", "\u001b[D", "\u001b[99D", "\u001b[G", "\u001b[1G");
+        Twins.alikeAt("6;12", "\u001b[6;12H", "\u001b[7;13H", "\u001b[99;99H");
+        Twins.alikeAt("1;1", "\u001b[H", "\u001b[0;0H", "\u001b[1;1H");
     }
 
     /** 'a KEPT cursor and pen (0, 0 and 0 at first)'. */
@@ -145,6 +153,7 @@ public final class CursorTest {
         columnAndRow();
         toPlaces();
         movesTouchNothing();
+        atTheBound();
         keptAtFirst();
         keptCursor();
         keptAgain();

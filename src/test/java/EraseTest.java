@@ -65,14 +65,10 @@ public final class EraseTest {
     private static void otherNumbers() {
         String[] others = {"3", "4", "5", "9", "10", "11", "12", "20", "21", "22", "98", "99", "100", "101", "102", "256", "258", "3;0", "3;1",
             "3;2"};
-        String place = "\u001b[4;6H";
         for (String p : others) {
             inItsRow(p + "J", 2, 5, Full.SIGNS[2]);
             inItsRow(p + "K", 2, 5, Full.SIGNS[2]);
-            for (String past : new String[] {Twins.BUSY + place, Twins.BUSY_OTHER + place}) {
-                Twins.alike(p + "J", past, probe -> probe.csi(p + "J"));
-                Twins.alike(p + "K", past, probe -> probe.csi(p + "K"));
-            }
+            Twins.alikeAt("4;6", "\u001b[" + p + "J", "\u001b[" + p + "K");
         }
         inItsRow("0;2K", 2, 5, "01234.......");
         inItsRow(";1K", 2, 5, "01234.......");

@@ -154,13 +154,9 @@ public final class FeedTest {
 
     /** These bytes move the cursor alone: no cell, no kept row, no mode changes. */
     private static void movesTouchNothing() {
-        String back = "\u001b[4;6H";
-        for (int b : new int[] {8, 9, 13}) {
-            Twins.alike("byte " + b + " and back", Twins.BUSY + back, probe -> probe.bytes(b).type(back));
-        }
-        Twins.alike("8 in column 0", Twins.BUSY + "\u001b[4;1H", probe -> probe.bytes(8));
-        Twins.alike("9 in column 11", Twins.BUSY + "\u001b[4;12H", probe -> probe.bytes(9));
-        Twins.alike("13 in column 0", Twins.BUSY + "\u001b[4;1H", probe -> probe.bytes(13));
+        Twins.alikeAt("4;6", "\b\u001b[4;6H", "\t\u001b[4;6H", "\r\u001b[4;6H");
+        Twins.alikeAt("4;1", "\b", "\r");
+        Twins.alikeAt("4;12", "\t");
     }
 
     public static void main(String[] args) {

@@ -79,8 +79,7 @@ public final class LineFeedTest {
         }
     }
 
-    /** Below the region row 5 has nowhere to go, and the sign behind WAITS goes to its column 0. */
-    private static void manyInRowFive() {
+    private static void severalTimes() {
         Probe probe = at(FEEDS[3], 5, 4).type("\n\n\n\u001bD\u001bE\n");
         look("six times in row 5", probe, "5,0", "abcdef", "");
         Probe top = at(REVERSES[3], 0, 4).type("\u001bM\u001bM\u001bM");
@@ -91,11 +90,19 @@ public final class LineFeedTest {
         look("27 M twice at the top", down, "0,4", "..abcd", "");
     }
 
+    /** 'if it is not 5' and 'if it is not 0': there they do nothing at all, but for the column of 27 E. */
+    private static void nowhereToGo() {
+        Twins.alikeAt("6;6", "\n", "\u001bD", "\n\u001bD\n");
+        Twins.alikeAt("6;1", "\n", "\u001bD", "\u001bE");
+        Twins.alikeAt("1;6", "\u001bM", "\u001bM\u001bM");
+    }
+
     public static void main(String[] args) {
         lineFeeds();
         reverses();
         wraps();
-        manyInRowFive();
+        severalTimes();
+        nowhereToGo();
         Check.end();
     }
 }

@@ -111,14 +111,14 @@ public final class ModesTest {
     /** In OTHER every byte and sequence does what it does outside, only that no row is kept. */
     private static void otherIsAScreenToo() {
         String start = Full.bytes() + "\u001b[2;4r\u001b[3;5H";
-        String[] more = {"x", "\b", "\t", "\n", "\n\n", "\r", "\u001b7\u001b[H\u001b8", "\u001bD\u001bD", "\u001bE", "\u001bM\u001bM", "\u001b[A",
-            "\u001b[9B", "\u001b[C", "\u001b[D", "\u001b[G", "\u001b[d", "\u001b[H", "\u001b[J", "\u001b[1J", "\u001b[2J", "\u001b[K", "\u001b[1K", "\u001b[2X",
-            "\u001b[2P", "\u001b[2@", "\u001b[L", "\u001b[M", "\u001b[S", "\u001b[T", "\u001b[r\u001b[2S", "\u001b[3;6r", "\u001b[6;6r", "\u001b[1m#",
-            "\u001b[4h#", "\u001b[?7l\u001b[12G##", "\u001b[12G##", "\u001b[6;12H##"};
-        for (String bytes : more) {
-            Probe outside = new Probe().threes(start + bytes);
-            Probe inOther = new Probe().threes("\u001b[?49h" + start + bytes);
-            Check.due("in OTHER: " + bytes.replace("\u001b", "27 "), pictureOfTheScreen(inOther), pictureOfTheScreen(outside));
+        String[] more = {"x", "\b", "\t", "\n", "\n\n", "\r", "^7^[H^8", "^D^D", "^E", "^M^M", "^[A", "^[9B", "^[C", "^[D", "^[G", "^[d", "^[H",
+            "^[J", "^[1J", "^[2J", "^[K", "^[1K", "^[2X", "^[2P", "^[2@", "^[L", "^[M", "^[S", "^[T", "^[r^[2S", "^[3;6r", "^[6;6r",
+            "^[1m#", "^[4h#", "^[?7l^[12G##", "^[12G##", "^[6;12H##"};
+        for (String written : more) {
+            String bytes = start + written.replace('^', '\u001b');
+            Probe outside = new Probe().threes(bytes);
+            Probe inOther = new Probe().threes("\u001b[?49h" + bytes);
+            Check.due("in OTHER, ^ for 27: " + written, pictureOfTheScreen(inOther), pictureOfTheScreen(outside));
         }
     }
 

@@ -35,9 +35,7 @@ public final class ScrollTest {
     /** 'else nothing', but for WAITS (WaitsTest). */
     private static void refusedRegions() {
         for (String refused : new String[] {"1;1", "3;3", "4;3", "6;1", "1;7", "6;7", "6", "99", "99;99", ";1"}) {
-            String place = "\u001b[4;6H";
-            Twins.alike(refused + "r", Twins.BUSY + place, probe -> probe.csi(refused + "r"));
-            Twins.alike(refused + "r", Twins.BUSY_OTHER + place, probe -> probe.csi(refused + "r"));
+            Twins.alikeAt("4;6", "\u001b[" + refused + "r");
         }
     }
 
@@ -124,6 +122,13 @@ public final class ScrollTest {
         }
     }
 
+    /** So what no answer tells at once is as it was, too. */
+    private static void nothingIsDoneOutside() {
+        for (String place : new String[] {"1;1", "1;5", "1;12", "6;1", "6;5", "6;12"}) {
+            Twins.alikeAt(place, "\u001b[L", "\u001b[9L", "\u001b[M", "\u001b[9M");
+        }
+    }
+
     /** 'the column becomes 0' from every column. */
     private static void columnBecomesZero() {
         for (int column = 0; column < 12; column++) {
@@ -190,6 +195,7 @@ public final class ScrollTest {
         scrolls();
         putInAndTakenOut();
         notInTheRegion();
+        nothingIsDoneOutside();
         columnBecomesZero();
         whichRowsAreKept();
         lastEight();

@@ -46,6 +46,15 @@ final class Twins {
         alike(what, BUSY + "\u001b[3;4", more);
     }
 
+    /** The same, for bytes that do nothing at a place, written as for the last byte H, in the regions 1 .. 4 and, in OTHER, 2 .. 3. */
+    static void alikeAt(String place, String... runs) {
+        for (String bytes : runs) {
+            String what = shorten(bytes) + " at " + place;
+            alike(what, BUSY + "\u001b[" + place + "H", probe -> probe.type(bytes));
+            alike(what, BUSY_OTHER + "\u001b[" + place + "H", probe -> probe.type(bytes));
+        }
+    }
+
     private static String shorten(String text) {
         String readable = text.replace("\u001b", "ESC ");
         return readable.length() <= 24 ? "'" + readable + "'" : "'.." + readable.substring(readable.length() - 24) + "'";
