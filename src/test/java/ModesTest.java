@@ -131,7 +131,7 @@ public final class ModesTest {
         Check.due("rows are kept again", probe.firstKept(), "ca");
     }
 
-    /** '27 c all becomes as at first, but what is shown; no lines are kept off the screen': from three states, then told the same. */
+    /** '27 c all becomes as at first, but what is shown; no lines are kept off the screen': from five states, then told the same. */
     private static void allAsAtFirst() {
         String[] later = {"", "\u001b8", "\u001b[?49l", "\u001b[?49h\u001b[?49l", "4h", "\n\n\n\n\n\n\n", "\u001b[S"};
         for (String past : new String[] {"", Twins.BUSY, Twins.BUSY_OTHER, Twins.BUSY + "\u001b[?7l\u001b[3;4", Twins.BUSY_OTHER + "\u001b[?49"}) {
