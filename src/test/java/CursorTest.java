@@ -19,7 +19,7 @@ public final class CursorTest {
         }
     }
 
-    /** 'A n rows up, at most to the top of the region, or to row 0 when the cursor is above the region.' */
+    /** 'A n rows up, at most to the top of the region, or to row 0 when the cursor is above the region'; from below it, to its top. */
     private static void up() {
         String[][] runs = {
             {"1;6", "", "001234"}, {"1;6", "0", "001234"}, {"1;6", "1", "001234"}, {"1;6", "2", "000123"}, {"1;6", "3", "000012"},
@@ -36,7 +36,7 @@ public final class CursorTest {
         }
     }
 
-    /** 'B n rows down, at most to the bottom of the region, or to row 5 when it is below the region.' */
+    /** 'B n rows down, at most to the bottom of the region, or to row 5 when it is below the region'; from above it, to its bottom. */
     private static void down() {
         String[][] runs = {
             {"1;6", "", "123455"}, {"1;6", "0", "123455"}, {"1;6", "1", "123455"}, {"1;6", "2", "234555"}, {"1;6", "3", "345555"},

@@ -16,8 +16,13 @@ public final class FaceTest {
         "int modes()", "int sequence()", "int keptRows()", "int kept(int,int)",
         "int refresh()", "int shown(int,int)", "int stale()"));
 
+    /** Whether more than the class itself sees it; then it must be public. */
     private static boolean isOpen(Member member) {
-        return !Modifier.isPrivate(member.getModifiers());
+        boolean open = !Modifier.isPrivate(member.getModifiers());
+        if (open) {
+            Check.due(member.getName() + " is public", Modifier.isPublic(member.getModifiers()), true);
+        }
+        return open;
     }
 
     private static String signature(Method method) {
@@ -54,6 +59,7 @@ public final class FaceTest {
         }
         Check.due("the open members", open, FACE);
         Check.due("BAD", TerminalStack.BAD, -1);
+        Check.due("public", Modifier.isPublic(TerminalStack.class.getModifiers()), true);
         Check.due("final", Modifier.isFinal(TerminalStack.class.getModifiers()), true);
         Check.end();
     }

@@ -98,6 +98,7 @@ public final class FeedTest {
         Check.due("in column 11 without WAITS nothing wraps", without.line(0), "...........y");
     }
 
+    /** 'In column 11 WAITS is switched on if WRAP is on', but 'if WAITS is on' names WAITS alone: WRAP may be off by then. */
     private static void wrapOff() {
         Probe probe = new Probe();
         probe.csi("?7l").csi("12G").type("ab");

@@ -1,6 +1,8 @@
 import com.sun.source.tree.AssignmentTree;
+import com.sun.source.tree.BinaryTree;
 import com.sun.source.tree.ClassTree;
 import com.sun.source.tree.CompilationUnitTree;
+import com.sun.source.tree.CompoundAssignmentTree;
 import com.sun.source.tree.DoWhileLoopTree;
 import com.sun.source.tree.ExpressionTree;
 import com.sun.source.tree.ForLoopTree;
@@ -10,6 +12,7 @@ import com.sun.source.tree.MethodTree;
 import com.sun.source.tree.NewArrayTree;
 import com.sun.source.tree.Tree;
 import com.sun.source.tree.Tree.Kind;
+import com.sun.source.tree.TypeCastTree;
 import com.sun.source.tree.VariableTree;
 import com.sun.source.tree.WhileLoopTree;
 import com.sun.source.util.JavacTask;
@@ -30,12 +33,12 @@ import javax.tools.StandardJavaFileManager;
 import javax.tools.ToolProvider;
 
 /**
- * The rules of LANGUAGE.md that can be read off the source; that no call throws or fails to end
- * (rule 7) is left to the tests that run it. What the rules give as 'some' is taken a little wider.
+ * The rules of LANGUAGE.md that can be read off the source; that no index is out of its range and no
+ * call fails to end (rules 7 and 8) is left to the tests that run it. What the rules give as 'some'
+ * is taken a little wider; where they name an easiest way, that one alone is let pass.
  */
 public final class FormTest {
     private static final Path PROGRAM = Path.of("src/main/java/TerminalStack.java");
-    private static final String CONSTRUCTOR = "<init>";
     private static final Set<String> TYPES = Set.of("int", "long", "short", "byte", "char", "boolean");
     private static final int MOST_CALLS_DEEP = 6;
     private static final int MOST_LINES = 70;
@@ -47,7 +50,12 @@ public final class FormTest {
         Kind.NEW_CLASS, Kind.MEMBER_REFERENCE, Kind.LAMBDA_EXPRESSION, Kind.ANNOTATION, Kind.IMPORT,
         Kind.THROW, Kind.TRY, Kind.SYNCHRONIZED, Kind.ASSERT, Kind.INSTANCE_OF);
 
-    private static final Set<String> ARRAY_FIELDS = new TreeSet<>();
+    private static final Set<Kind> DIVISIONS = EnumSet.of(Kind.DIVIDE, Kind.REMAINDER, Kind.DIVIDE_ASSIGNMENT, Kind.REMAINDER_ASSIGNMENT);
+    private static final Set<Modifier> OF_METHODS = EnumSet.of(Modifier.PUBLIC, Modifier.PRIVATE, Modifier.STATIC);
+
+    private static final Set<String> CONSTANTS = new TreeSet<>();
+    /** The fields, parameters and local variables that name an array. */
+    private static final Set<String> ARRAYS = new TreeSet<>();
     /** The methods that each method calls, by name and number of parameters. */
     private static final Map<String, Set<String>> CALLED = new TreeMap<>();
 
@@ -81,8 +89,9 @@ public final class FormTest {
         @Override
         public Void visitMethodInvocation(MethodInvocationTree tree, Void nothing) {
             rule("10, no call inside the arguments of another: " + tree, !inArguments);
+            rule("4 and 5, no call makes a field's first value: " + tree, !name.isEmpty());
             String called = tree.getMethodSelect().toString().replace("this.", "");
-            CALLED.get(method).add(called + "/" + tree.getArguments().size());
+            CALLED.computeIfAbsent(method, any -> new TreeSet<>()).add(called + "/" + tree.getArguments().size());
             inArguments = true;
             super.visitMethodInvocation(tree, nothing);
             inArguments = false;
@@ -99,21 +108,59 @@ public final class FormTest {
         @Override
         public Void visitVariable(VariableTree tree, Void nothing) {
             rule("2, the type of " + tree, TYPES.contains(tree.getType().toString().replaceFirst("\\[\\]$", "")));
+            if (tree.getType().toString().endsWith("[]")) {
+                ARRAYS.add(tree.getName().toString());
+            }
             return super.visitVariable(tree, nothing);
         }
 
         @Override
         public Void visitNewArray(NewArrayTree tree, Void nothing) {
-            rule("4, no method makes an array: " + tree, name.isEmpty() || name.equals(CONSTRUCTOR));
+            rule("4, arrays are made in the fields' initialisers: " + tree, name.isEmpty());
             rule("4, an array with one length: " + tree, tree.getDimensions().size() == 1);
+            for (ExpressionTree length : tree.getDimensions()) {
+                rule("4, a length that is a literal or a constant: " + tree, isFixed(length));
+            }
             return super.visitNewArray(tree, nothing);
         }
 
         @Override
         public Void visitAssignment(AssignmentTree tree, Void nothing) {
-            boolean arrayField = ARRAY_FIELDS.contains(tree.getVariable().toString().replace("this.", ""));
-            rule("4, no method assigns to an array field: " + tree, name.equals(CONSTRUCTOR) || !arrayField);
+            rule("4, what names an array goes on naming it: " + tree, !isArray(tree.getVariable()));
             return super.visitAssignment(tree, nothing);
+        }
+
+        @Override
+        public Void visitBinary(BinaryTree tree, Void nothing) {
+            rule("4, no array is compared: " + tree, !isArray(tree.getLeftOperand()) && !isArray(tree.getRightOperand()));
+            lookAtDivisor(tree, tree.getRightOperand());
+            return super.visitBinary(tree, nothing);
+        }
+
+        @Override
+        public Void visitCompoundAssignment(CompoundAssignmentTree tree, Void nothing) {
+            lookAtDivisor(tree, tree.getExpression());
+            return super.visitCompoundAssignment(tree, nothing);
+        }
+
+        private void lookAtDivisor(Tree tree, ExpressionTree right) {
+            rule("7, a divisor that is not 0: " + tree, !DIVISIONS.contains(tree.getKind()) || isFixed(right));
+        }
+
+        @Override
+        public Void visitTypeCast(TypeCastTree tree, Void nothing) {
+            rule("6, a cast between numbers: " + tree, TYPES.contains(tree.getType().toString()));
+            return super.visitTypeCast(tree, nothing);
+        }
+
+        private boolean isArray(ExpressionTree tree) {
+            return ARRAYS.contains(tree.toString().replace("this.", ""));
+        }
+
+        /** A literal, but not 0, or one of the constants. */
+        private boolean isFixed(ExpressionTree tree) {
+            boolean literal = tree.getKind() == Kind.INT_LITERAL && !tree.toString().equals("0");
+            return literal || CONSTANTS.contains(tree.toString());
         }
 
         private void lookAtEnd(Tree loop, ExpressionTree condition) {
@@ -146,11 +193,12 @@ public final class FormTest {
         String type = field.getType().toString();
         if (modifiers.contains(Modifier.STATIC)) {
             rule("5, a constant: " + field, modifiers.contains(Modifier.FINAL) && (type.equals("int") || type.equals("long")));
+            CONSTANTS.add(field.getName().toString());
             return 0;
         }
         rule("1, private: " + field, modifiers.contains(Modifier.PRIVATE));
         if (type.endsWith("[]")) {
-            ARRAY_FIELDS.add(field.getName().toString());
+            rule("4, made here and once: " + field, field.getInitializer() instanceof NewArrayTree);
         }
         return 1;
     }
@@ -160,6 +208,7 @@ public final class FormTest {
         rule("10, " + name + " has " + lines + " lines", lines <= MOST_LINES);
         rule("10, parameters of " + name, method.getParameters().size() <= MOST_PARAMETERS);
         rule("6, " + name + " throws nothing", method.getThrows().isEmpty());
+        rule("6, " + name + " is nothing but public or private, perhaps static", OF_METHODS.containsAll(method.getModifiers().getFlags()));
         rule("4, " + name + " answers no array", !String.valueOf(method.getReturnType()).endsWith("]"));
     }
 
@@ -186,9 +235,9 @@ public final class FormTest {
         rule("1, no private method bears the name of a public one: " + closed, closed.isEmpty());
     }
 
-    /** How many calls deep the longest chain goes that begins with these methods and goes on with this one. */
+    /** How many methods the longest chain has that begins with these methods and goes on with this one. */
     private static int callsDeep(List<String> chain, String method) {
-        int deepest = chain.size();
+        int deepest = chain.size() + 1;
         rule("8, no recursion: " + chain + " " + method, !chain.contains(method));
         if (!chain.contains(method)) {
             List<String> longer = new ArrayList<>(chain);
@@ -211,6 +260,7 @@ public final class FormTest {
             new Everywhere().scan(unit, null);
         }
         for (String method : CALLED.keySet()) {
+            rule("3, " + method + " calls methods of this class alone", CALLED.keySet().containsAll(CALLED.get(method)));
             int deep = callsDeep(List.of(), method);
             rule("10, calls from " + method + " go " + deep + " deep", deep <= MOST_CALLS_DEEP);
         }

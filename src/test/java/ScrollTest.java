@@ -62,7 +62,10 @@ public final class ScrollTest {
         new Due("4;6", "3T", "abc...", ""), new Due("4;6", "4T", "abc...", ""), new Due("5;6", "T", "abcd.e", ""),
     };
 
-    /** 'S the region SCROLLS UP by n rows. T it SCROLLS DOWN by n rows', wherever the cursor is. */
+    /**
+     * 'S the region SCROLLS UP by n rows. T it SCROLLS DOWN by n rows', wherever the cursor is. 'By n rows: n times':
+     * an empty row that came in and goes off again is a lost row too.
+     */
     private static void scrolls() {
         for (Due due : SCROLLS) {
             for (int row = 0; row < 6; row++) {
